@@ -93,7 +93,8 @@ public final class PromiseTest {
         CHECK.due("images", x.size(11), 0);
         CHECK.due("undo()", x.undo(), false);
         CHECK.due("hall without blanks",
-                Check.tell(x, "hall long3rows1nose0;speaker  plain at2 001 ; lamp 0 1"), 1);
+                Check.tell(x, "hall long3rows1nose0;speaker  plain at2 001 ; lamp 0 1;member zz flat seat 9"
+                .replace("9", "0far 1sharp0errs 100")), 1);
         CHECK.due("speaker(0, 0)", x.speaker(0, 0), 2);
     }
 
@@ -134,6 +135,11 @@ public final class PromiseTest {
         fault(SPEAKER + ";", 1, 43);
         fault(SPEAKER + "?", 1, 42);
         fault(SPEAKER + ";member m paper", 1, 52);
+        fault(SPEAKER + ";member m{ flat", 1, 51);
+        fault(SPEAKER + ";member `m flat", 1, 50);
+        fault(SPEAKER + ";lamp 1: 1", 1, 49);
+        fault(SPEAKER + ";lamp /1 1", 1, 48);
+        fault(SPEAKER + ";lamp \u00e1 1", 1, 48);
         fault(SPEAKER + ";lamp 1", 1, 49);
         fault(SPEAKER + ";flight 1 far 1 land", 1, 58);
     }
@@ -142,6 +148,7 @@ public final class PromiseTest {
         fault(HALL + "hall ?", 3, 26);
         fault(SPEAKER + ";member s ?", 3, 50);
         fault(SPEAKER + ";speaker s", 3, 51);
+        fault(HALL + "speaker zazz at 0 1;member zazz", 3, 53);
         fault(HALL + "air 2 left 1;air 2", 3, 43);
         fault(HALL + "fog 2;fog 2", 3, 36);
         fault(HALL + "fog 2;air 002", 3, 36);
