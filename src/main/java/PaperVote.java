@@ -47,15 +47,14 @@ public final class PaperVote {
     private int faultPlace;
 
     public PaperVote() {
-        tape = new Tape();
-        reader = new Reader(tape);
+        reader = new Reader();
+        tape = reader.tape;
         past = new Past();
-        Ballots ballots = new Ballots();
-        odds = new Odds(ballots);
+        odds = new Odds();
         places = new Places();
         fog = new Fog();
         sway = new Sway();
-        draws = new Draws(ballots);
+        draws = new Draws();
         present = new Hall();
         draft = new Hall();
         refusal = NO_TROUBLE;
@@ -995,7 +994,7 @@ public final class PaperVote {
         private static final int LAMP_LINE = 6;
         private static final int FLIGHT_LINE = 7;
 
-        private final Tape tape;
+        final Tape tape;
         private final long[] names;
         private final boolean[] airTold;
         private int named;
@@ -1006,8 +1005,8 @@ public final class PaperVote {
         int found;
         int foundAt;
 
-        Reader(Tape tape) {
-            this.tape = tape;
+        Reader() {
+            tape = new Tape();
             names = new long[MAX_SPEAKERS + MAX_MEMBERS];
             airTold = new boolean[MAX_ROWS + 1];
             named = 0;
@@ -1402,8 +1401,8 @@ public final class PaperVote {
         int bestRow;
         int bestChance;
 
-        Odds(Ballots ballots) {
-            this.ballots = ballots;
+        Odds() {
+            ballots = new Ballots();
             counts = new int[MAX_SPEAKERS];
             winning = new long[MAX_SPEAKERS];
             spread = new long[MAX_MEMBERS + 1];
@@ -1926,8 +1925,8 @@ public final class PaperVote {
         int counting;
         int latest;
 
-        Draws(Ballots ballots) {
-            this.ballots = ballots;
+        Draws() {
+            ballots = new Ballots();
             counts = new int[MAX_SPEAKERS];
             thrown = new int[MAX_MEMBERS];
             won = new int[MAX_SPEAKERS];
