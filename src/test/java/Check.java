@@ -12,8 +12,7 @@ final class Check {
 
     void due(String call, long got, long want) {
         if (got != want) {
-            wrong++;
-            System.out.println(about + ": " + call + " answered " + got + ", due is " + want);
+            fail(call + " answered " + got + ", due is " + want);
         }
     }
 
@@ -43,6 +42,50 @@ final class Check {
     void dueFraction(String call, long upper, long lower, long wantUpper, long wantLower) {
         due(call + ", upper", upper, wantUpper);
         due(call + ", lower", lower, wantLower);
+    }
+
+    /** A refused call: NONE by a number, and all is as it was. */
+    void dueRefused(PaperVote x, String call, String before, long got, int trouble) {
+        dueTrouble(x, call, got, -1, trouble);
+        dueSame(x, call, before);
+    }
+
+    void dueRefused(PaperVote x, String call, String before, boolean got, int trouble) {
+        dueTrouble(x, call, got, false, trouble);
+        dueSame(x, call, before);
+    }
+
+    /** All that can be seen is as it was when before was taken by stateOf. */
+    void dueSame(PaperVote x, String call, String before) {
+        String behind = stateOf(x);
+        if (!behind.equals(before)) {
+            fail("behind " + call + " there is " + behind + ", not " + before);
+        }
+    }
+
+    void fail(String text) {
+        wrong++;
+        System.out.println(about + ": " + text);
+    }
+
+    /** What acts, sessions, halls and images change, as a text; some fifty calls. */
+    static String stateOf(PaperVote x) {
+        StringBuilder text = new StringBuilder("sizes");
+        for (int what = 0; what <= 12; what++) {
+            text.append(' ').append(x.size(what));
+        }
+        for (int s = 0; s < x.size(3); s++) {
+            text.append(" speaker ").append(x.speaker(s, 0)).append(' ').append(x.speaker(s, 1));
+            text.append(' ').append(x.speaker(s, 2));
+        }
+        for (int m = 0; m < x.size(4); m++) {
+            text.append(" member ").append(x.member(m, 0)).append(' ').append(x.member(m, 1));
+            text.append(' ').append(x.member(m, 2));
+        }
+        for (int row = 1; row <= x.size(1); row++) {
+            text.append(" air ").append(x.air(row));
+        }
+        return text.toString();
     }
 
     void finish() {
