@@ -263,6 +263,29 @@ public final class ActSentencesTest {
         CHECK.due("speaker(1, 1)", x.speaker(1, 1), 1);
     }
 
+    @Says("STAND: true; false: 1; 5 (a speaker, or a lamp is there).")
+    static void promise46_everyPlaceOfAFullHall() {
+        String text = "hall long 5 rows 6 nose 9;air 6 left 2;speaker a at 0 2;speaker b at 1 1;speaker c at 3 4;"
+                + "speaker d at 4 6;lamp 0 1;lamp 4 5;lamp 2 3;member m flat seat 0 far 4 sharp 0 errs 0";
+        String taken = " 0,2 1,1 3,4 4,6 0,1 4,5 2,3 ";
+        for (int s = 0; s < 4; s++) {
+            PaperVote x = Check.told(text);
+            for (int i = 0; i < 4; i++) {
+                x.session();
+            }
+            for (int row = 1; row <= 6; row++) {
+                for (int column = 0; column <= 4; column++) {
+                    boolean free = !taken.contains(" " + column + "," + row + " ");
+                    CHECK.dueTrouble(x, "stand(" + s + ", " + column + ", " + row + ")",
+                            x.stand(s, column, row), free, free ? 0 : 5);
+                    if (free) {
+                        x.undo();
+                    }
+                }
+            }
+        }
+    }
+
     // ---- promise 49
 
     @Says("UNDO: true; false: 6.")

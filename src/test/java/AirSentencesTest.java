@@ -248,4 +248,70 @@ public final class AirSentencesTest {
         x.warm(1, 6);
         CHECK.dueTrouble(x, "judge(), three to the right", x.judge(), -2, 0);
     }
+
+    @Says("by which all flights (as plain ones, without error) land as told")
+    static void promise30_fiveFlights() {
+        String text = "hall long 12 rows 2 nose 0;fog 1;air 2 right 1;speaker s at 0 1";
+        for (int f = 0; f < 5; f++) {
+            text += ";flight " + (2 * f) + " far 2 lands " + (2 * f + 3);
+        }
+        PaperVote x = Check.told(text);
+        dueAirs(x, 1, 16, 4);
+        CHECK.due("judge()", x.judge(), 0);
+        x.warm(1, 5);
+        CHECK.due("judge(), all land so", x.judge(), -2);
+        CHECK.due("airs(), all land so", x.airs(), 1);
+    }
+
+    @Says("for each row not known NOW")
+    static void promise30_afreshBehindAWarming() {
+        // Rows 1 to 3 drift by 1 together.
+        PaperVote x = Check.told("hall long 12 rows 3 nose 0;fog 1;fog 2;fog 3;speaker s at 0 1;flight 5 far 3 lands 6");
+        CHECK.due("airs()", x.airs(), 18);
+        CHECK.due("could(1)", x.could(1), 31);
+        x.warm(2, 5);
+        CHECK.due("airs(), row 2 by two to the right", x.airs(), 4);
+        CHECK.due("could(1)", x.could(1), 15);
+        CHECK.due("could(3)", x.could(3), 15);
+        x.warm(1, 1);
+        CHECK.due("airs(), row 1 by two to the left", x.airs(), 1);
+        CHECK.due("could(3)", x.could(3), 8);
+        CHECK.due("surely(3)", x.surely(3), 3);
+        x.undo();
+        x.undo();
+        CHECK.due("airs() as it was", x.airs(), 18);
+    }
+
+    @Says("at most fewest AIRS are left, the first such")
+    static void promise33_eachSeatByItself() {
+        // One or two to the left: told apart from seat 2 on, however far the throws from 0 and 1 came.
+        PaperVote x = Check.told("hall long 12 rows 2 nose 0;fog 1;air 2 right 3;speaker s at 0 1;"
+                + "flight 1 far 1 lands 0");
+        for (int i = 0; i < 2; i++) {
+            CHECK.due("toThrow()", x.toThrow(), 21);
+            CHECK.due("throwLeaves()", x.throwLeaves(), 1);
+        }
+    }
+
+    @Says("The first flight, as told, that doesn't land so by airs NOW (unknown ones 0); -2. NONE: 1 (no HALL).")
+    static void promise35_fiveThatLandSo() {
+        String text = FOG;
+        for (int f = 0; f < 5; f++) {
+            text += ";flight 5 far 1 lands 5";
+        }
+        PaperVote x = Check.told(text);
+        CHECK.dueTrouble(x, "judge()", x.judge(), -2, 0);
+        CHECK.due("airs()", x.airs(), 1);
+    }
+
+    @Says("How many are left at most then; -2 likewise. NONE: likewise.")
+    static void promise34_allAirsThereCanBe() {
+        // From 1 two drifts of five lead to each wall, whatever the other rows do: 50 of 125.
+        PaperVote x = Check.told("hall long 3 rows 3 nose 0;fog 1;fog 2;fog 3;speaker s at 0 1");
+        CHECK.dueTrouble(x, "throwLeaves()", x.throwLeaves(), 50, 0);
+        CHECK.dueTrouble(x, "toThrow()", x.toThrow(), 11, 0);
+        PaperVote y = Check.told("hall long 12 rows 3 nose 0;fog 1;fog 2;fog 3;speaker s at 0 1");
+        CHECK.dueTrouble(y, "throwLeaves(), 19 sums of three being 0", y.throwLeaves(), 19, 0);
+        CHECK.dueTrouble(y, "toThrow()", y.toThrow(), 33, 0);
+    }
 }

@@ -393,6 +393,29 @@ public final class NowSentencesTest {
                 + member('o', "flat", 1, 1)).winner(), 0);
     }
 
+    @Says("WINNER: who has most that COUNT, of like ones the first; nobody if none COUNTS.")
+    static void promise13_byOneMemberOrAmongFourSpeakers() {
+        String hall = "hall long 4 rows 1 nose 0;speaker a at 0 1;speaker b at 1 1;speaker c at 2 1;speaker d at 3 1";
+        for (int s = 0; s < 4; s++) {
+            PaperVote x = Check.told(hall + member('m', "flat", s, 1));
+            CHECK.dueTrouble(x, "winner() by a dart at " + s, x.winner(), s, 0);
+        }
+    }
+
+    @Says("WINNER: who has most that COUNT, of like ones the first; nobody if none COUNTS.")
+    static void promise13_countedAfreshEachTime() {
+        PaperVote x = Check.told("hall long 3 rows 1 nose 0;speaker a at 0 1;speaker b at 2 1;lamp 1 1"
+                + member('m', "flat", 0, 1));
+        for (int i = 0; i < 3; i++) {
+            CHECK.due("winner()", x.winner(), 0);
+            x.sit(0, 2);
+            CHECK.due("winner() from another seat", x.winner(), 1);
+            x.sit(0, 1);
+            CHECK.due("winner(), it hangs", x.winner(), -2);
+            x.sit(0, 0);
+        }
+    }
+
     // ---- promise 14
 
     @Says("How many COUNT without errors. NONE: 1 (no HALL).")
@@ -466,5 +489,25 @@ public final class NowSentencesTest {
         PaperVote x = Check.told(EMPTY + ";lamp 2 1" + member('m', "flat", 2, 1) + member('n', "flat", 2, 1)
                 + member('o', "flat", 0, 1));
         CHECK.due("thickest() at a lamp", x.thickest(), 21);
+    }
+
+    @Says("The place in which most darts come down without errors")
+    static void promise16_theFirstColumnAndSixDarts() {
+        PaperVote x = six("hall long 3 rows 6 nose 0;speaker s at 2 6", "flat", 0);
+        CHECK.due("thickest(), three at 0 of 1", x.thickest(), 1);
+        for (int m = 0; m < 3; m++) {
+            x.sit(m, 2);
+        }
+        CHECK.due("thickest(), three at 2 of 1", x.thickest(), 21);
+    }
+
+    @Says("The place in which most darts come down without errors")
+    static void promise16_countedAfreshEachTime() {
+        PaperVote x = Check.told("hall long 3 rows 1 nose 0;speaker s at 0 1" + member('m', "flat", 2, 1));
+        for (int i = 0; i < 8; i++) {
+            x.place(0);
+            CHECK.due("thickest()", x.thickest(), i % 2 == 0 ? 21 : 1);
+            x.sit(0, i % 2 == 0 ? 0 : 2);
+        }
     }
 }

@@ -126,6 +126,22 @@ public final class OddsSentencesTest {
         dueLikely(x, 0, 0, 1);
     }
 
+    @Says("How likely a member's dart is FOR a speaker and COUNTS")
+    static void promise17_eachMemberByHisOwn() {
+        // Row 1 drifts to the right by 3: plain to 4, stable to 2, loop to 0, flat stays at 1.
+        PaperVote x = Check.told("hall long 5 rows 2 nose 0;air 1 right 3;speaker a at 0 1;speaker b at 4 1;"
+                + "member m plain seat 1 far 1 sharp 0 errs 0;member n stable seat 1 far 1 sharp 0 errs 50;"
+                + "member o loop seat 1 far 1 sharp 0 errs 0;member p flat seat 1 far 2 sharp 0 errs 0");
+        long[][] due = {{0, 1}, {3, 4}, {1, 1}, {1, 1}};
+        for (int m = 0; m < 4; m++) {
+            CHECK.due("likely(" + m + ", 0), upper", x.likely(m, 0, false), due[m][0]);
+            CHECK.due("likely(" + m + ", 0), lower", x.likely(m, 0, true), due[m][1]);
+        }
+        dueMean(x, 0, 11, 4);
+        dueMean(x, 1, 5, 4);
+        dueJust(x, 0, 3, 3, 4);
+    }
+
     // ---- promise 18
 
     @Says("ODDS that a speaker wins, likewise. -1: 1.")
@@ -279,6 +295,22 @@ public final class OddsSentencesTest {
     }
 
     @Says("The speaker likeliest to win, the first such; -2 nobody can. NONE: 1 (no HALL).")
+    static void promise21_byTheLeastOdds() {
+        PaperVote x = Check.told(EMPTY + ";lamp 1 1;lamp 2 1" + member('m', 1, 1));
+        CHECK.dueTrouble(x, "favourite() by 1 of 200", x.favourite(), 0, 0);
+        dueWins(x, 0, 1, 200);
+    }
+
+    @Says("The speaker likeliest to win, the first such; -2 nobody can. NONE: 1 (no HALL).")
+    static void promise21_amongFourSpeakers() {
+        String hall = "hall long 4 rows 1 nose 0;speaker a at 0 1;speaker b at 1 1;speaker c at 2 1;speaker d at 3 1";
+        for (int s = 0; s < 4; s++) {
+            PaperVote x = Check.told(hall + member('m', s, 10));
+            CHECK.dueTrouble(x, "favourite() by a dart at " + s, x.favourite(), s, 0);
+        }
+    }
+
+    @Says("The speaker likeliest to win, the first such; -2 nobody can. NONE: 1 (no HALL).")
     static void promise21_theFirstOfLikeOnes() {
         PaperVote x = Check.told("hall long 5 rows 1 nose 5;speaker a at 4 1;speaker b at 2 1;speaker c at 0 1"
                 + member('m', 1, 100));
@@ -420,5 +452,33 @@ public final class OddsSentencesTest {
     static void promise24_neverIsTheFirst() {
         PaperVote x = Check.told(TWO + ";member m flat seat 4 far 1 sharp 6 errs 0");
         CHECK.dueTrouble(x, "bestSeat(0, 1)", x.bestSeat(0, 1), 0, 0);
+    }
+
+    @Says("How likely by it, likewise. -1: 1.")
+    static void promise23_askedAlone() {
+        PaperVote x = oneBy(0, 50);
+        CHECK.due("bestLikely(0, 0), lower", x.bestLikely(0, 0, true), 4);
+        CHECK.due("bestLikely(0, 1), lower", x.bestLikely(0, 1, true), 1);
+        CHECK.due("bestLikely(0, 0), upper", x.bestLikely(0, 0, false), 3);
+    }
+
+    @Says("folded and aimed as NOW, its dart is likeliest FOR a speaker and COUNTS, the first such.")
+    static void promise24_eachMemberByHisOwn() {
+        // By the drift of 3 a plain one comes down at 0 from no seat, a flat one from 0 alone.
+        PaperVote x = Check.told("hall long 5 rows 2 nose 0;air 1 right 3;speaker a at 4 1;speaker b at 0 1;"
+                + "speaker c at 1 1;member m plain seat 1 far 1 sharp 0 errs 0;"
+                + "member n loop seat 4 far 2 sharp 0 errs 0;member o flat seat 3 far 1 sharp 0 errs 0");
+        CHECK.due("bestSeat(0, 0)", x.bestSeat(0, 0), 0);
+        CHECK.due("bestSeat(1, 1)", x.bestSeat(1, 1), 1);
+        CHECK.due("bestSeat(2, 2)", x.bestSeat(2, 2), 1);
+        CHECK.due("bestFold(1, 1), loop from 4", x.bestFold(1, 1), 21);
+        CHECK.due("bestFold(2, 1), loop from 3", x.bestFold(2, 1), 21);
+        CHECK.due("bestFold(0, 2), stable from 1 to 2", x.bestFold(0, 2), 11);
+    }
+
+    @Says("(not beyond the wall: at it)")
+    static void promise24_noSeatBeyondTheWall() {
+        PaperVote x = Check.told("hall long 5 rows 1 nose 0;speaker a at 3 1;speaker b at 4 1" + member('m', 0, 50));
+        CHECK.due("bestSeat(0, 1)", x.bestSeat(0, 1), 4);
     }
 }

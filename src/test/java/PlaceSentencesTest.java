@@ -275,4 +275,27 @@ public final class PlaceSentencesTest {
         PaperVote x = new PaperVote();
         CHECK.dueTrouble(x, "rest(0, 1)", x.rest(0, 1), -1, 1);
     }
+
+    @Says("How many are FOR him there. NONE: 1.")
+    static void promise26_askedAlone() {
+        PaperVote x = Check.told(THREE);
+        CHECK.due("placeVotes(0), b standing at the other dart", x.placeVotes(0), 1);
+        x.fold(0, 0);
+        x.aim(0, 2);
+        x.sit(0, 2);
+        CHECK.due("placeVotes(0), b and c standing at both", x.placeVotes(0), 0);
+    }
+
+    @Says("The first, by the one's column, then the other one's: 100 times and; -2. NONE: 1 (unlike).")
+    static void promise29_askedAloneAndAfresh() {
+        PaperVote x = Check.told("hall long 3 rows 1 nose 0;speaker a at 0 1;speaker b at 2 1;"
+                + "member m flat seat 2 far 1 sharp 0 errs 0;member n flat seat 2 far 1 sharp 0 errs 0;"
+                + "member o flat seat 2 far 1 sharp 0 errs 0");
+        CHECK.due("rest(0, 1), all at 2", x.rest(0, 1), 200);
+        x.sit(0, 0);
+        CHECK.due("rest(0, 1), one at 0", x.rest(0, 1), -2);
+        x.undo();
+        CHECK.due("rests(0, 1)", x.rests(0, 1), 3);
+        CHECK.due("rest(1, 0)", x.rest(1, 0), 2);
+    }
 }

@@ -66,6 +66,14 @@ public final class SwaySentencesTest {
         duePower(Check.told(text), 32, 0, 0, 0, 0, 0);
     }
 
+    @Says("there is another WINNER, or one at all, if his dart is thrown too")
+    static void promise36_amongFourSpeakers() {
+        // Of two darts that of the speaker told first goes ahead.
+        String hall = "hall long 4 rows 1 nose 0;speaker a at 0 1;speaker b at 1 1;speaker c at 2 1;speaker d at 3 1";
+        duePower(Check.told(hall + member('m', 3, 0) + member('n', 2, 0)), 1, 2);
+        duePower(Check.told(hall + member('m', 3, 0) + member('n', 3, 0) + member('o', 0, 0)), 2, 2, 3);
+    }
+
     // ---- promise 37
 
     @Says("The member with most, the first such; -2 nobody has any. NONE: 1 (no HALL).")
@@ -88,6 +96,14 @@ public final class SwaySentencesTest {
         CHECK.due("mighty()", x.mighty(), 1);
         PaperVote y = Check.told(TWO + member('m', 4, 0) + member('n', 0, 0));
         CHECK.due("mighty(), the second has more", y.mighty(), 1);
+    }
+
+    @Says("The member with most, the first such; -2 nobody has any. NONE: 1 (no HALL).")
+    static void promise37_byTheLeastPower() {
+        PaperVote x = Check.told(EMPTY + member('m', 0, 0));
+        CHECK.due("mighty(), one member", x.mighty(), 0);
+        PaperVote y = Check.told(EMPTY + member('m', 0, 0) + member('n', 0, 0) + member('o', 0, 0));
+        CHECK.due("mighty(), each by one set", y.mighty(), 0);
     }
 
     // ---- promise 38

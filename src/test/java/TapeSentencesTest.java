@@ -226,6 +226,25 @@ public final class TapeSentencesTest {
         CHECK.dueTrouble(x, "hall(0) of an empty TAPE", x.hall(0), -1, 4);
     }
 
+    @Says("The first n bytes of THE TAPE (it is empty then)")
+    static void promise3_noBytesThoughABlankIsThere() {
+        PaperVote x = new PaperVote();
+        Check.feedText(x, "  " + SMALL);
+        CHECK.dueTrouble(x, "hall(0)", x.hall(0), -1, 4);
+        CHECK.due("where()", x.where(), 0);
+    }
+
+    @Says("The first n bytes of THE TAPE (it is empty then)")
+    static void promise3_aWordCutByTheirEnd() {
+        PaperVote x = new PaperVote();
+        Check.feedText(x, "hall long 3");
+        CHECK.dueTrouble(x, "hall(8)", x.hall(8), -1, 4);
+        CHECK.due("fault()", x.fault(), 1);
+        CHECK.due("where(), at lon", x.where(), 5);
+        Check.feedText(x, SMALL + "ss");
+        CHECK.due("hall(42)", x.hall(42), 1);
+    }
+
     @Says("(SEED 0, no sessions; nothing to undo, no IMAGES): how many speakers.")
     static void promise3_aNewHallHasNothingOfTheOld() {
         PaperVote x = used();
@@ -254,6 +273,44 @@ public final class TapeSentencesTest {
         CHECK.due("lamp(2, 1)", x.lamp(2, 1), 0);
         CHECK.dueTrouble(x, "member(0, 0)", x.member(0, 0), -1, 1);
         CHECK.dueTrouble(x, "speaker(1, 0)", x.speaker(1, 0), -1, 1);
+    }
+
+    @Says("(SEED 0, no sessions; nothing to undo, no IMAGES): how many speakers.")
+    static void promise3_fullAndEmptyHallsInTurn() {
+        String full = "hall long 12 rows 6 nose 9;air 1 left 3;air 2 left 2;fog 4;fog 5;fog 6;speaker a at 0 1;"
+                + "speaker b at 1 1;speaker c at 2 1;speaker d at 3 1;lamp 4 1;lamp 5 1;lamp 6 1";
+        for (char m = 'e'; m < 'k'; m++) {
+            full += ";member " + m + " loop seat 3 far 6 sharp 9 errs 9";
+        }
+        for (int f = 0; f < 5; f++) {
+            full += ";flight 0 far 6 lands 1";
+        }
+        PaperVote x = new PaperVote();
+        for (int i = 0; i < 3; i++) {
+            CHECK.dueTrouble(x, "hall", Check.tell(x, full), 4, 0);
+            int[] due = {12, 6, 9, 4, 6, 3, 5, 3, 0, 0, 0, 0, 0};
+            for (int what = 0; what <= 12; what++) {
+                CHECK.due("size(" + what + ") of the full one", x.size(what), due[what]);
+            }
+            x.session();
+            CHECK.dueTrouble(x, "hall", Check.tell(x, SMALL), 1, 0);
+            CHECK.due("state of the small one", Check.stateOf(x).equals(Check.stateOf(Check.told(SMALL))), true);
+            x.session();
+        }
+    }
+
+    @Says("(SEED 0, no sessions; nothing to undo, no IMAGES): how many speakers.")
+    static void promise3_nothingOfAFaultyText() {
+        PaperVote x = new PaperVote();
+        for (int i = 0; i < 2; i++) {
+            Check.tell(x, "hall long 12 rows 6 nose 9;air 1 left 3;fog 2;fog 3;fog 4;air 6 right 1;"
+                    + "speaker s at 0 1;speaker b at 1 1;lamp 2 1;lamp 0 2;"
+                    + "member m loop seat 3 far 6 sharp 9 errs 9;flight 0 far 6 lands 1;?");
+            CHECK.dueTrouble(x, "hall behind a FAULT", Check.tell(x, SMALL), 1, 0);
+            CHECK.due("its state", Check.stateOf(x).equals(Check.stateOf(Check.told(SMALL))), true);
+            CHECK.due("lamp(2, 1)", x.lamp(2, 1), 0);
+            CHECK.due("judge(), no flight", x.judge(), -2);
+        }
     }
 
     @Says("(SEED 0, no sessions; nothing to undo, no IMAGES): how many speakers.")
